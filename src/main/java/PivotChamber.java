@@ -69,22 +69,19 @@ public final class PivotChamber {
 
     public int member(int member, int what) throws IndexOutOfBoundsException, IllegalArgumentException {
         refuse(setting.faultOfMember(member));
-        refuse(what < 0 || what > 7 ? BAD_ARGUMENT : FINE);
-        return what < 4 ? setting.memberValue(member, what) : measured().memberValue(member, what);
+        refuse(faultOfRange(what, 0, 7));
+        return memberValue(measured(), member, what);
     }
 
     public int rule(int rule, int what) throws IndexOutOfBoundsException, IllegalArgumentException {
         refuse(setting.faultOfRule(rule));
-        refuse(what < 0 || what > 2 ? BAD_ARGUMENT : FINE);
+        refuse(faultOfRange(what, 0, 2));
         return setting.ruleValue(rule, what);
     }
 
     public int whole(int what) throws IllegalArgumentException {
-        refuse(what < 0 || what > 11 ? BAD_ARGUMENT : FINE);
-        if (what == 11) {
-            return text.length;
-        }
-        return what < 5 || what == 10 ? setting.wholeValue(what) : measured().wholeValue(what);
+        refuse(faultOfRange(what, 0, 11));
+        return wholeValue(measured(), what);
     }
 
     public int wins(int set) throws IllegalArgumentException {
@@ -204,23 +201,23 @@ public final class PivotChamber {
     }
 
     public long digest() {
+        Power now = measured();
         long hash = mixed(43588L, saved.count);
         for (int what = 0; what <= 11; what++) {
-            hash = mixed(hash, whole(what));
+            hash = mixed(hash, wholeValue(now, what));
         }
         for (int member = 0; member < setting.members; member++) {
             for (int what = 0; what <= 7; what++) {
-                hash = mixed(hash, member(member, what));
+                hash = mixed(hash, memberValue(now, member, what));
             }
-            hash = mixed(hash, bitsOf(share(member), 127, 23));
-            hash = mixed(hash, bitsOf(part(member), 1023, 52));
+            hash = mixed(hash, bitsOf(now.shareOf(member), 127, 23));
+            hash = mixed(hash, bitsOf(now.partOf(member), 1023, 52));
         }
         for (int rule = 0; rule < setting.rules; rule++) {
             for (int what = 0; what <= 2; what++) {
-                hash = mixed(hash, rule(rule, what));
+                hash = mixed(hash, setting.ruleValue(rule, what));
             }
         }
-        Power now = measured();
         for (int index = 0; index < now.leastCount; index++) {
             hash = mixed(hash, now.leastSets.at(index));
         }
@@ -267,6 +264,17 @@ public final class PivotChamber {
         }
         long fraction = (long) ((scaled - 1.0) * (double) (1L << fractionBits));
         return ((long) (bias - halvings) << fractionBits) + fraction;
+    }
+
+    private int memberValue(Power now, int member, int what) {
+        return what < 4 ? setting.memberValue(member, what) : now.memberValue(member, what);
+    }
+
+    private int wholeValue(Power now, int what) {
+        if (what == 11) {
+            return text.length;
+        }
+        return what < 5 || what == 10 ? setting.wholeValue(what) : now.wholeValue(what);
     }
 
     private int perform(Command command, int first, int second) {

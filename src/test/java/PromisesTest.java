@@ -227,6 +227,7 @@ public final class PromisesTest {
         check.same("value of 2", x.rule(2, 1), 4);
         check.refuses("rule(3, 0)", x, PLACE, () -> x.rule(3, 0));
         check.same("undo()", x.undo(), 3);
+        check.same("kind of 1 after undo", x.rule(1, 0), 1);
         check.same("value of 1 after undo", x.rule(1, 1), 2);
         check.same("value of 3 after undo", x.rule(3, 1), 4);
         check.same("dropRule(3)", x.dropRule(3), 3);
@@ -516,6 +517,23 @@ public final class PromisesTest {
         check.same("bestQuota(0) when no weight is there", chamber(1, 0, 0).bestQuota(0), -1);
         check.same("bestQuota(1) of several the least", chamber(9, 2, 2).bestQuota(1), 1);
         check.same("bestQuota(0) up to the sum", chamber(1, 50, 49).bestQuota(0), 50);
+        // By 2 it has 2 of 6 swings, by 6 it has 4 of 12: the same share.
+        PivotChamber even = chamber(1, 4, 1, 3, 3);
+        check.same("bestQuota(2) of equal fractions", even.bestQuota(2), 2);
+        check.same("bestQuota(1)", even.bestQuota(1), 1);
+        check.same("bestQuota(2) again", even.bestQuota(2), 2);
+        int[][] changes = {{50, 40, 1, 1}, {4, 1, 3, 3}, {2, 3, 2, 2}, {9, 9, 1, 8}, {4, 1, 3, 3}};
+        for (int[] weights : changes) {
+            for (int m = 0; m < weights.length; m++) {
+                even.setWeight(m, weights[m]);
+            }
+            for (int m = 0; m < weights.length; m++) {
+                check.same("bestQuota(" + m + ") after a change", even.bestQuota(m), chamber(1, weights).bestQuota(m));
+            }
+        }
+        PivotChamber last = chamber(1, 1, 1);
+        last.addRule(1, 0);
+        check.same("bestQuota(1), which is the sum", last.bestQuota(1), 2);
         PivotChamber y = chamber(1, 2, 2);
         y.addRule(1, 5);
         check.same("bestQuota(0) when a rule never holds", y.bestQuota(0), -1);
@@ -669,14 +687,14 @@ public final class PromisesTest {
             "add 1 2;", "add 1a;", "follow 1;", "follow 1 ;", "follow 1", "follow 1 2", "follow 12", ";", "  ;", "1",
             "add 1;;", "add 1; x", "add 1;quotas 3;", "add 1; quota", "add 1;\t", "add\t1;", "add 1\u0000;", "add -1;",
             "add 1;weight 0 1 2;", "fooX", "foo", "foo;", "addX", "add ", "add 1 ", "weight 0  ", "a", "`", "{",
-            "leave 0;rule 0 1;drop 0;q", "  zz 1;", "add /;", "add :;", "runs 1;", "follow 1 2345;"};
+            "leave 0;rule 0 1;drop 0;q", "bdd 1;", "addz 1;", "adda 1;", "  zz 1;", "add /;", "add :;", "runs 1;", "follow 1 2345;"};
         int[] faults = {
             -1, -1, -1, -1, -1, 5,
             3, 0, 0, 0, 0, 3, 3, 4, 4, 7, 7,
             6, 5, 8, 9, 8, 10, 9, 0, 2, 0,
             6, 7, 6, 12, 6, 3, 5, 4,
             17, 0, 0, 0, 3, 4, 6, 10, 0, 0, 0,
-            24, 2, 4, 4, 0, 12};
+            24, 0, 0, 0, 2, 4, 4, 0, 12};
         for (int i = 0; i < texts.length && i < faults.length; i++) {
             PivotChamber x = new PivotChamber();
             int got = runOf(x, texts[i]);
@@ -713,6 +731,10 @@ public final class PromisesTest {
         check.same("stops at a value 0 to a rule 0", runOf(x, "drop 3;rule 0 0;"), 1);
         check.same("the stack keeps four", x.undo(), 3);
         check.same("rules before the last run", x.whole(3), 4);
+        PivotChamber z = chamber(3, 1, 2);
+        check.same("winning sets before", z.whole(5), 1);
+        check.same("another quota", runOf(z, "quota 1;"), 1);
+        check.same("winning sets behind it", z.whole(5), 3);
         StringBuilder full = new StringBuilder();
         for (int i = 0; i < 16; i++) {
             full.append("quota 77;");
@@ -785,6 +807,21 @@ public final class PromisesTest {
     }
 
     private void promise28ByHand() {
+        // Shares of less than a tenth, of which the bits go far down.
+        PivotChamber eight = chamber(99, 50, 49, 48, 3, 2, 1, 0, 0);
+        long h = hash(4, 8, 8, 99, 0, 153, 116, 6, 208, 192, 0, 0, 0);
+        for (int m = 0; m < 8; m++) {
+            for (int what = 0; what <= 7; what++) {
+                h = 31 * h + eight.member(m, what);
+            }
+            h = 31 * h + Float.floatToIntBits(eight.share(m));
+            h = 31 * h + Double.doubleToLongBits(eight.part(m));
+        }
+        for (int set : new int[] {3, 13, 14, 21, 22, 37}) {
+            h = 31 * h + set;
+        }
+        check.same("digest() of eight", eight.digest(), h);
+        check.holds("a share is less than a tenth", eight.share(3) > 0 && eight.share(3) < 0.1f);
         PivotChamber x = chamber(6, 4, 3, 2, 1);
         x.follow(3, 1);
         x.addRule(0, 2);
