@@ -687,7 +687,8 @@ public final class PromisesTest {
             "add 1 2;", "add 1a;", "follow 1;", "follow 1 ;", "follow 1", "follow 1 2", "follow 12", ";", "  ;", "1",
             "add 1;;", "add 1; x", "add 1;quotas 3;", "add 1; quota", "add 1;\t", "add\t1;", "add 1\u0000;", "add -1;",
             "add 1;weight 0 1 2;", "fooX", "foo", "foo;", "addX", "add ", "add 1 ", "weight 0  ", "a", "`", "{",
-            "leave 0;rule 0 1;drop 0;q", "bdd 1;", "addz 1;", "adda 1;", "  zz 1;", "add /;", "add :;", "runs 1;", "follow 1 2345;"};
+            "leave 0;rule 0 1;drop 0;q", "bdd 1;", "addz 1;", "adda 1;", "  zz 1;", "add /;", "add :;",
+            "runs 1;", "follow 1 2345;"};
         int[] faults = {
             -1, -1, -1, -1, -1, 5,
             3, 0, 0, 0, 0, 3, 3, 4, 4, 7, 7,

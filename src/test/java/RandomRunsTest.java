@@ -201,7 +201,8 @@ public final class RandomRunsTest {
             int word = next(WORDS.length);
             text.append(spaces(0)).append(WORDS[word]);
             for (int i = 0; i < NUMBERS[word]; i++) {
-                int number = next(15) == 0 ? next(1000) : word == 2 ? 1 + next(100) : word == 5 ? next(3) : next(members);
+                int usual = word == 2 ? 1 + next(100) : word == 5 ? next(3) : next(members);
+                int number = next(15) == 0 ? next(1000) : usual;
                 text.append(spaces(1)).append(next(6) == 0 ? "0" : "").append(number);
             }
             text.append(spaces(0)).append(';');
