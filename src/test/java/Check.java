@@ -54,8 +54,8 @@ final class Check {
         }
     }
 
-    int wrongs() {
-        return wrong;
+    int asked() {
+        return right + wrong;
     }
 
     /** Prints the sums and ends the program, with 1 if anything was wrong. */

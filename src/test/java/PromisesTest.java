@@ -1,13 +1,5 @@
 /** For each promise of the document: ordinary inputs, the edges that it names, and wrong inputs. */
-public final class PromisesTest {
-    private static final Class<IllegalArgumentException> ARGUMENT = IllegalArgumentException.class;
-    private static final Class<IllegalStateException> STATE = IllegalStateException.class;
-    private static final Class<IndexOutOfBoundsException> PLACE = IndexOutOfBoundsException.class;
-    private static final int LEAST = Integer.MIN_VALUE;
-    private static final int MOST = Integer.MAX_VALUE;
-
-    private final Check check = new Check();
-
+public final class PromisesTest extends ChamberTests {
     public static void main(String[] args) {
         PromisesTest test = new PromisesTest();
         test.promise1();
@@ -43,27 +35,6 @@ public final class PromisesTest {
         test.promise28();
         test.promise28ByHand();
         test.check.end("PromisesTest");
-    }
-
-    private static PivotChamber chamber(int quota, int... weights) {
-        PivotChamber chamber = new PivotChamber();
-        for (int weight : weights) {
-            chamber.add(weight);
-        }
-        chamber.setQuota(quota);
-        return chamber;
-    }
-
-    private static void write(PivotChamber chamber, String text) {
-        for (int i = 0; i < text.length(); i++) {
-            chamber.type(text.charAt(i));
-        }
-    }
-
-    private static int runOf(PivotChamber chamber, String text) {
-        chamber.clearCommands();
-        write(chamber, text);
-        return chamber.runCommands();
     }
 
     private void promise1() {
