@@ -244,8 +244,9 @@ public final class PivotChamber {
         return (set >> member & 1) == 1;
     }
 
+    /** In how many orders so many players can stand; 0 for a number of players that no chamber has. */
     private static int factorial(int number) {
-        return number >= 0 && number < FACTORIALS.length ? FACTORIALS[number] : 1;
+        return number >= 0 && number < FACTORIALS.length ? FACTORIALS[number] : 0;
     }
 
     private static long mixed(long hash, long value) {
@@ -818,7 +819,8 @@ public final class PivotChamber {
         }
 
         double partOf(int member) {
-            return (double) orders.at(member) / (double) factorial(playerCount());
+            int allOrders = factorial(playerCount());
+            return allOrders == 0 ? 0.0 : (double) orders.at(member) / (double) allOrders;
         }
 
         /** Goes back from the end of the order: whose going makes a winning set lose is the pivot. */
